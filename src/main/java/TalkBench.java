@@ -19,6 +19,10 @@ public final class TalkBench {
     private static final int SIDE = 5;
     private static final int PLACES = SIDE * SIDE;
     private static final int SETS = 1 << SIDE;
+    // A block stands at ROW_STEP * its rows + COLUMN_STEP * its columns: without a set of its rows it stands
+    // ROW_STEP * that set lower, likewise for columns.
+    private static final int ROW_STEP = SETS;
+    private static final int COLUMN_STEP = 1;
     private static final int BLOCKS = SETS * SETS;
     private static final int MOST_WEIGHT = 9;
     private static final int MOST_WRONG_BITS = 6;
@@ -451,7 +455,7 @@ public final class TalkBench {
     }
 
     private static int blockAt(int rows, int columns) {
-        return rows * SETS + columns;
+        return ROW_STEP * rows + COLUMN_STEP * columns;
     }
 
     /** A table with its weights; place (i, j) stands at 5 * i + j whatever the size, as fools() numbers them. */
@@ -825,35 +829,41 @@ public final class TalkBench {
             }
             bitsOf[at] = FAR_TOO_MANY;
             endsOf[at] = FAR_TOO_MANY;
-            for (int p = partings.from[rows]; p < partings.from[rows + 1]; p++) {
-                int second = partings.seconds[p];
-                tryParting(at, blockAt(rows - second, columns), blockAt(second, columns));
-            }
-            for (int p = partings.from[columns]; p < partings.from[columns + 1]; p++) {
-                int second = partings.seconds[p];
-                tryParting(at, blockAt(rows, columns - second), blockAt(rows, second));
-            }
+            tryPartings(at, rows, ROW_STEP);
+            tryPartings(at, columns, COLUMN_STEP);
         }
 
-        private void tryParting(int at, int first, int second) {
-            bitsOf[at] = Math.min(bitsOf[at], 1 + Math.max(bitsOf[first], bitsOf[second]));
-            endsOf[at] = Math.min(endsOf[at], endsOf[first] + endsOf[second]);
+        private void tryPartings(int at, int set, int step) {
+            int bits = bitsOf[at];
+            int ends = endsOf[at];
+            for (int p = partings.from[set]; p < partings.from[set + 1]; p++) {
+                int first = at - partings.seconds[p] * step;
+                int second = at - (set - partings.seconds[p]) * step;
+                bits = Math.min(bits, 1 + Math.max(bitsOf[first], bitsOf[second]));
+                ends = Math.min(ends, endsOf[first] + endsOf[second]);
+            }
+            bitsOf[at] = bits;
+            endsOf[at] = ends;
         }
 
         /** The parting of THE BEST TALK: its SECOND set, and SETS more when that is one of columns; 0: none. */
         int bestParting(int rows, int columns) {
             learn();
-            int left = bitsOf[blockAt(rows, columns)] - 1;
-            for (int p = partings.from[rows]; p < partings.from[rows + 1]; p++) {
-                int second = partings.seconds[p];
-                if (bitsOf[blockAt(rows - second, columns)] <= left && bitsOf[blockAt(second, columns)] <= left) {
-                    return second;
-                }
+            int at = blockAt(rows, columns);
+            int ofRows = firstBest(at, rows, ROW_STEP);
+            if (ofRows != 0) {
+                return ofRows;
             }
-            for (int p = partings.from[columns]; p < partings.from[columns + 1]; p++) {
-                int second = partings.seconds[p];
-                if (bitsOf[blockAt(rows, columns - second)] <= left && bitsOf[blockAt(rows, second)] <= left) {
-                    return SETS + second;
+            int ofColumns = firstBest(at, columns, COLUMN_STEP);
+            return ofColumns == 0 ? 0 : SETS + ofColumns;
+        }
+
+        private int firstBest(int at, int set, int step) {
+            for (int p = partings.from[set]; p < partings.from[set + 1]; p++) {
+                int first = at - partings.seconds[p] * step;
+                int second = at - (set - partings.seconds[p]) * step;
+                if (bitsOf[first] < bitsOf[at] && bitsOf[second] < bitsOf[at]) {
+                    return partings.seconds[p];
                 }
             }
             return 0;
@@ -971,23 +981,21 @@ public final class TalkBench {
                 for (int columns = marks.allColumns; columns >= 1; columns--) {
                     int at = blockAt(rows, columns);
                     if (loss[at] > 0) {
-                        loss[at] = Math.min(loss[at], leastOfPartings(rows, columns, loss[at]));
+                        tryPartings(at, rows, ROW_STEP);
+                        tryPartings(at, columns, COLUMN_STEP);
                     }
                 }
             }
         }
 
-        private int leastOfPartings(int rows, int columns, int start) {
-            int least = start;
-            for (int p = partings.from[rows]; p < partings.from[rows + 1]; p++) {
-                int second = partings.seconds[p];
-                least = Math.min(least, loss[blockAt(rows - second, columns)] + loss[blockAt(second, columns)]);
+        private void tryPartings(int at, int set, int step) {
+            int least = loss[at];
+            for (int p = partings.from[set]; p < partings.from[set + 1]; p++) {
+                int first = at - partings.seconds[p] * step;
+                int second = at - (set - partings.seconds[p]) * step;
+                least = Math.min(least, loss[first] + loss[second]);
             }
-            for (int p = partings.from[columns]; p < partings.from[columns + 1]; p++) {
-                int second = partings.seconds[p];
-                least = Math.min(least, loss[blockAt(rows, columns - second)] + loss[blockAt(rows, second)]);
-            }
-            return least;
+            loss[at] = least;
         }
     }
 
@@ -1229,8 +1237,8 @@ public final class TalkBench {
 
     /**
      * The searches for the fewest blocks: each takes the lowest place still wanted, and tries all blocks with
-     * it. No block has two fooling places, nor a 0 and a 1: the fooling places still wanted tell when a search
-     * can come to nothing better.
+     * it. No EVEN block has two fooling places, nor a 0 and a 1: what is still wanted of each tells when a
+     * search can come to nothing better.
      */
     private static final class Covering {
         private static final int MOST_BLOCKS = (SETS / 2 - 1) * (SETS / 2 - 1);
@@ -1239,8 +1247,9 @@ public final class TalkBench {
         private final Fooling fooling;
         private final int[] found = new int[MOST_BLOCKS];
         private final int[] from = new int[PLACES + 1];
+        private final int[] placesOfAnswer = new int[2];
+        private final int[] foolingOfAnswer = new int[2];
         private int foundCount;
-        private int foolingPlaces;
         private int best;
 
         Covering(Task task, Marks marks, Fooling fooling) {
@@ -1251,10 +1260,10 @@ public final class TalkBench {
 
         int fewestToCover(int v) {
             listGreatestBlocks(v);
-            foolingPlaces = fooling.greatest(v);
+            readAnswer(v);
             // Each row on its own takes a block at most.
             best = countRowsWith(v);
-            coverRest(fooling.placesThatAre(v), 0);
+            coverRest(v, placesOfAnswer[v], 0);
             return best;
         }
 
@@ -1290,25 +1299,26 @@ public final class TalkBench {
             return rows;
         }
 
-        private void coverRest(int wanted, int used) {
+        private void coverRest(int v, int wanted, int used) {
             if (wanted == 0) {
                 best = Math.min(best, used);
                 return;
             }
-            if (used + atLeastFor(wanted) >= best) {
+            if (used + atLeastFor(v, wanted) >= best) {
                 return;
             }
             int lowest = lowestOf(wanted);
             for (int b = 0; b < foundCount; b++) {
                 if ((found[b] & lowest) != 0) {
-                    coverRest(wanted & ~found[b], used + 1);
+                    coverRest(v, wanted & ~found[b], used + 1);
                 }
             }
         }
 
         int fewestToPart(int enough) {
             listAllEvenBlocks();
-            foolingPlaces = fooling.greatest(0) | fooling.greatest(1);
+            readAnswer(0);
+            readAnswer(1);
             best = enough;
             partRest(placesOf(marks.allRows, marks.allColumns), 0);
             return best;
@@ -1342,7 +1352,9 @@ public final class TalkBench {
                 best = Math.min(best, used);
                 return;
             }
-            if (used + atLeastFor(wanted) >= best) {
+            // One more block is due when all that is left is OPEN.
+            int due = Math.max(1, atLeastFor(0, wanted) + atLeastFor(1, wanted));
+            if (used + due >= best) {
                 return;
             }
             int lowest = memberOf(lowestOf(wanted));
@@ -1353,8 +1365,14 @@ public final class TalkBench {
             }
         }
 
-        private int atLeastFor(int wanted) {
-            return Math.max(1, Integer.bitCount(wanted & foolingPlaces));
+        private void readAnswer(int v) {
+            placesOfAnswer[v] = fooling.placesThatAre(v);
+            foolingOfAnswer[v] = fooling.greatest(v);
+        }
+
+        private int atLeastFor(int v, int wanted) {
+            int left = wanted & placesOfAnswer[v];
+            return left == 0 ? 0 : Math.max(1, Integer.bitCount(left & foolingOfAnswer[v]));
         }
 
         private int placesOf(int rows, int columns) {

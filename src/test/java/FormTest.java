@@ -1,0 +1,123 @@
+import java.io.IOException;
+import java.lang.reflect.Constructor;
+import java.lang.reflect.Field;
+import java.lang.reflect.Method;
+import java.lang.reflect.Modifier;
+import java.nio.file.Files;
+import java.nio.file.Path;
+import java.util.ArrayList;
+import java.util.List;
+import java.util.Set;
+import java.util.TreeSet;
+import java.util.regex.Matcher;
+import java.util.regex.Pattern;
+
+/** The rules of LANGUAGE.md, as far as a reader of the text and of the class can tell them. */
+public final class FormTest {
+    private static final List<String> FACE = List.of(
+        "as(int,int)", "bits(int,int)", "bring(int)", "check()", "classes(boolean)", "copy(int,int,int,int,int)",
+        "cover(int)", "ends(int,int)", "fool(int)", "fools(int)", "keep(int)", "knot(int,int)", "lay(int)",
+        "once(boolean)", "part()", "place(int,int)", "put(int,int,int)", "rank(boolean)", "rule(int)",
+        "said(int,int)", "same(int)", "sheet(int,int,int)", "swing()", "table(int,int)", "talk()", "tell(int)",
+        "told(int)", "turn()", "turnAnswers()", "undo()", "unlike(boolean)", "weigh(int,int,int)",
+        "write(int,int,int)", "wrong(int)");
+    private static int wrong = 0;
+
+    private static void must(boolean holds, String what) {
+        if (!holds) {
+            wrong++;
+            System.out.println(what);
+        }
+    }
+
+    public static void main(String[] args) throws IOException {
+        face();
+        membersInside();
+        text(Files.readString(Path.of("src/main/java/TalkBench.java")));
+        System.out.println(wrong == 0 ? "the form is kept" : wrong + " faults of form");
+        if (wrong != 0) {
+            System.exit(1);
+        }
+    }
+
+    private static String sign(Method m) {
+        List<String> types = new ArrayList<>();
+        for (Class<?> type : m.getParameterTypes()) {
+            types.add(type.getSimpleName());
+        }
+        return m.getName() + "(" + String.join(",", types) + ")";
+    }
+
+    private static void face() {
+        Set<String> visible = new TreeSet<>();
+        for (Method m : TalkBench.class.getDeclaredMethods()) {
+            if (!Modifier.isPrivate(m.getModifiers())) {
+                visible.add(sign(m));
+                must(Modifier.isPublic(m.getModifiers()) && !Modifier.isStatic(m.getModifiers()), "not as in the face: " + m);
+                must(m.getReturnType() == int.class, "answers no int: " + m);
+            }
+        }
+        must(visible.equals(new TreeSet<>(FACE)) && FACE.size() == 34, "the face is another one: " + visible);
+        Constructor<?>[] made = TalkBench.class.getDeclaredConstructors();
+        must(made.length == 1 && Modifier.isPublic(made[0].getModifiers()) && made[0].getParameterCount() == 0, "the constructor");
+        must(Modifier.isFinal(TalkBench.class.getModifiers()), "the class is not final");
+        for (Field f : TalkBench.class.getDeclaredFields()) {
+            must(Modifier.isPrivate(f.getModifiers()), "a field is not private: " + f);
+        }
+    }
+
+    private static void membersInside() {
+        List<Class<?>> classes = new ArrayList<>(List.of(TalkBench.class.getDeclaredClasses()));
+        must(classes.size() < 13, "too many classes: " + classes.size());
+        classes.add(TalkBench.class);
+        Set<String> names = new TreeSet<>();
+        for (String sign : FACE) {
+            names.add(sign.substring(0, sign.indexOf('(')));
+        }
+        for (Class<?> c : classes) {
+            must(c == TalkBench.class || Modifier.isStatic(c.getModifiers()), "not static: " + c);
+            int fields = 0;
+            for (Field f : c.getDeclaredFields()) {
+                must(!Modifier.isStatic(f.getModifiers()) || Modifier.isFinal(f.getModifiers()), "static and not final: " + f);
+                fields += Modifier.isStatic(f.getModifiers()) ? 0 : 1;
+            }
+            must(fields <= 20, "too many fields: " + c);
+            for (Method m : c.getDeclaredMethods()) {
+                must(m.getParameterCount() <= 7, "too many parameters: " + m);
+                must(c == TalkBench.class && FACE.contains(sign(m)) || !names.contains(m.getName()), "a name of the face: " + m);
+            }
+        }
+    }
+
+    private static void text(String text) {
+        String code = text.replaceAll("(?s)/\\*.*?\\*/", "").replaceAll("//[^\n]*", "");
+        Matcher ruledOut = Pattern.compile("\\b(throw|throws|try|catch|synchronized|assert|System\\.(?!arraycopy)\\w+"
+            + "|Thread|Random|Object|var|double|float|\\w+Exact|package|native|volatile|transient)\\b|->|::|\"").matcher(code);
+        while (ruledOut.find()) {
+            must(false, "ruled out: " + ruledOut.group());
+        }
+        Matcher imports = Pattern.compile("import ([^;]+);").matcher(code);
+        while (imports.find()) {
+            must(imports.group(1).equals("java.util.Arrays"), "imported: " + imports.group(1));
+        }
+        must(text.chars().allMatch(sign -> sign < 127), "a sign above 126");
+        Matcher library = Pattern.compile("\\b(Math|Integer|Arrays)\\.(\\w+)").matcher(code);
+        while (library.find()) {
+            must(List.of("min", "max", "abs", "bitCount", "fill", "copyOf").contains(library.group(2)), "called: " + library.group());
+        }
+        methodLengths(text.split("\n"));
+    }
+
+    private static void methodLengths(String[] lines) {
+        for (int start = 0; start < lines.length; start++) {
+            Matcher head = Pattern.compile("^( {4}| {8})(?! )[\\w\\[\\] ]+\\([^;=]*\\{$").matcher(lines[start]);
+            if (head.find()) {
+                int end = start;
+                while (end < lines.length && !lines[end].equals(head.group(1) + "}")) {
+                    end++;
+                }
+                must(end - start < 60, "too long, from line " + (start + 1));
+            }
+        }
+    }
+}

@@ -300,8 +300,9 @@ public final class TalkBench {
         if (task.rowCount > PART_SIDE || task.columnCount > PART_SIDE) {
             return finding(LONG);
         }
-        // The ends of a talk are such blocks too: the search has but to look for fewer.
-        return covering.fewestToPart(blocks.fewestEnds(marks.allRows, marks.allColumns));
+        // The ENDS of a talk are such blocks, and on so few rows and columns no blocks but those of a talk do
+        // better: PartsTest has tried all tables.
+        return blocks.fewestEnds(marks.allRows, marks.allColumns);
     }
 
     public int swing() {
@@ -1236,20 +1237,16 @@ public final class TalkBench {
     }
 
     /**
-     * The searches for the fewest blocks: each takes the lowest place still wanted, and tries all blocks with
-     * it. No EVEN block has two fooling places, nor a 0 and a 1: what is still wanted of each tells when a
-     * search can come to nothing better.
+     * The search for the fewest blocks that cover: it takes the lowest place still wanted, and tries all blocks
+     * with it. No block has two fooling places: those still wanted tell when it can come to nothing better.
      */
     private static final class Covering {
-        private static final int MOST_BLOCKS = (SETS / 2 - 1) * (SETS / 2 - 1);
         private final Task task;
         private final Marks marks;
         private final Fooling fooling;
-        private final int[] found = new int[MOST_BLOCKS];
-        private final int[] from = new int[PLACES + 1];
-        private final int[] placesOfAnswer = new int[2];
-        private final int[] foolingOfAnswer = new int[2];
+        private final int[] found = new int[SETS];
         private int foundCount;
+        private int foolingPlaces;
         private int best;
 
         Covering(Task task, Marks marks, Fooling fooling) {
@@ -1260,10 +1257,10 @@ public final class TalkBench {
 
         int fewestToCover(int v) {
             listGreatestBlocks(v);
-            readAnswer(v);
+            foolingPlaces = fooling.greatest(v);
             // Each row on its own takes a block at most.
             best = countRowsWith(v);
-            coverRest(v, placesOfAnswer[v], 0);
+            coverRest(fooling.placesThatAre(v), 0);
             return best;
         }
 
@@ -1299,80 +1296,20 @@ public final class TalkBench {
             return rows;
         }
 
-        private void coverRest(int v, int wanted, int used) {
+        private void coverRest(int wanted, int used) {
             if (wanted == 0) {
                 best = Math.min(best, used);
                 return;
             }
-            if (used + atLeastFor(v, wanted) >= best) {
+            if (used + Math.max(1, Integer.bitCount(wanted & foolingPlaces)) >= best) {
                 return;
             }
             int lowest = lowestOf(wanted);
             for (int b = 0; b < foundCount; b++) {
                 if ((found[b] & lowest) != 0) {
-                    coverRest(v, wanted & ~found[b], used + 1);
+                    coverRest(wanted & ~found[b], used + 1);
                 }
             }
-        }
-
-        int fewestToPart(int enough) {
-            listAllEvenBlocks();
-            readAnswer(0);
-            readAnswer(1);
-            best = enough;
-            partRest(placesOf(marks.allRows, marks.allColumns), 0);
-            return best;
-        }
-
-        // By their lowest places, those of a place from[place] on, the greater sets first.
-        private void listAllEvenBlocks() {
-            foundCount = 0;
-            for (int place = 0; place < PLACES; place++) {
-                from[place] = foundCount;
-                for (int rows = marks.allRows; rows >= 1; rows--) {
-                    if (lowestOf(rows) == 1 << place / SIDE) {
-                        listEvenBlocks(rows, 1 << place % SIDE);
-                    }
-                }
-            }
-            from[PLACES] = foundCount;
-        }
-
-        private void listEvenBlocks(int rows, int lowestColumn) {
-            for (int columns = marks.allColumns; columns >= 1; columns--) {
-                if (lowestOf(columns) == lowestColumn && marks.isEven(rows, columns) && foundCount < MOST_BLOCKS) {
-                    found[foundCount] = placesOf(rows, columns);
-                    foundCount++;
-                }
-            }
-        }
-
-        private void partRest(int wanted, int used) {
-            if (wanted == 0) {
-                best = Math.min(best, used);
-                return;
-            }
-            // One more block is due when all that is left is OPEN.
-            int due = Math.max(1, atLeastFor(0, wanted) + atLeastFor(1, wanted));
-            if (used + due >= best) {
-                return;
-            }
-            int lowest = memberOf(lowestOf(wanted));
-            for (int b = from[lowest]; b < from[lowest + 1]; b++) {
-                if ((found[b] & ~wanted) == 0) {
-                    partRest(wanted & ~found[b], used + 1);
-                }
-            }
-        }
-
-        private void readAnswer(int v) {
-            placesOfAnswer[v] = fooling.placesThatAre(v);
-            foolingOfAnswer[v] = fooling.greatest(v);
-        }
-
-        private int atLeastFor(int v, int wanted) {
-            int left = wanted & placesOfAnswer[v];
-            return left == 0 ? 0 : Math.max(1, Integer.bitCount(left & foolingOfAnswer[v]));
         }
 
         private int placesOf(int rows, int columns) {

@@ -553,6 +553,8 @@ public final class PromiseTest {
         due("fool(0)", of("11", "11").fool(0), 0);
         due("fool(1)", of("12", "01").fool(1), 2);
         due("fool(1)", of("12", "21").fool(1), 1);
+        due("a row without", of("00", "10", "01").fool(1), 2);
+        due("a row to be left out", of("122", "210", "201").fool(1), 2);
         due("fool(2)", x.fool(2), BEYOND);
         due("fool(-1)", x.fool(-1), BEYOND);
         due("fool(HIGH)", x.fool(HIGH), BEYOND);
@@ -641,6 +643,9 @@ public final class PromiseTest {
         due("wrong(7)", y.wrong(7), BEYOND);
         due("wrong(HIGH)", y.wrong(HIGH), BEYOND);
         due("wrong(6)", of("22", "22").wrong(6), 0);
+        due("a row alone", of("01").wrong(1), 0);
+        due("a column alone", of("0", "1").wrong(1), 0);
+        due("a row alone", of("01").wrong(0), 1);
     }
 
     private static void telling() {
@@ -682,6 +687,8 @@ public final class PromiseTest {
         due("SECOND that FIRST has not", check(x, 0, 2, 0, 2), 101);
         due("an answer of 2", check(x, 0, 2, 1, 2, 2, 2), 102);
         due("told(6)", x.told(6), 0);
+        due("most bits in FIRST", check(of("01", "00"), 0, 2, 1, 2, 2, 0, 2, 1, 2, 0), 2);
+        due("most bits in SECOND", check(of("00", "01"), 0, 2, 2, 0, 1, 2, 2, 0, 2, 1), 2);
         TalkBench open = of("20", "22");
         due("an END that OPEN places allow", check(open, 0, 2, 2, 0, 2, 1), 1);
         due("EVEN, yet parted", check(open, 1, 2, 0, 2, 2, 1, 2, 1, 2, 0), 2);
@@ -808,6 +815,20 @@ public final class PromiseTest {
         due("a ring of ten, and two rings", x.same(2), 0);
         fill(x, "10100", "01010", "00101", "10010", "01001");
         due("a ring of ten in another order", x.same(2), 1);
+        fill(x, "01", "10");
+        x.keep(2);
+        fill(x, "01", "01");
+        due("a row twice", x.same(2), 0);
+        fill(x, "11", "10");
+        due("another number of ones", x.same(2), 0);
+        fill(x, "00", "00");
+        x.keep(2);
+        fill(x, "10", "10");
+        due("another column", x.same(2), 0);
+        fill(x, "000", "000");
+        due("a column more", x.same(2), 0);
+        fill(x, "00", "00", "00");
+        due("a row more", x.same(2), 0);
         due("same(3)", x.same(3), NONE);
         due("same(4)", x.same(4), BEYOND);
         due("same(-1)", x.same(-1), BEYOND);
@@ -841,6 +862,25 @@ public final class PromiseTest {
         due("undo of weigh()", x.undo(), 4);
         due("weight", x.weigh(0, 0, 2), 1);
         onlyThirty();
+        roundTheRing();
+    }
+
+    private static void roundTheRing() {
+        TalkBench x = new TalkBench();
+        x.table(5, 5);
+        for (int i = 0; i < 50; i++) {
+            x.put(i % 25 / 5, i % 5, i < 25 ? 1 : 2);
+        }
+        for (int i = 49; i >= 20; i--) {
+            due("undo()", x.undo(), i - 20);
+            due("what put " + i + " had changed", x.place(i % 25 / 5, i % 5), i < 25 ? 0 : 1);
+            due("what put " + (i - 1) + " had told", x.place((i - 1) % 25 / 5, (i - 1) % 5), i <= 25 ? 1 : 2);
+            if (i == 30) {
+                x.rule(0);
+                due("undo of rule()", x.undo(), 10);
+            }
+        }
+        due("undo()", x.undo(), NONE);
     }
 
     private static void onlyThirty() {

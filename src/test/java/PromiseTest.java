@@ -212,6 +212,15 @@ public final class PromiseTest {
         TalkBench y = byRule(5, 1, 1);
         due("turn()", y.turn(), 1);
         isTable(y, "00000");
+        TalkBench z = of("01201", "11021", "20110", "00121");
+        for (int i = 0; i < 20; i++) {
+            z.weigh(i / 5, i % 5, i % 10);
+        }
+        due("turn()", z.turn(), 5);
+        isTable(z, "0120", "1100", "2011", "0212", "1101");
+        for (int i = 0; i < 20; i++) {
+            due("weight of place " + i, z.weigh(i % 5, i / 5, 1), i % 10);
+        }
     }
 
     private static void turnAnswers() {

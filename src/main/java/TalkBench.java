@@ -57,8 +57,7 @@ public final class TalkBench {
     private final Scales scales;
     private final Talk talk;
     private final Judge judge;
-    private final Fooling fooling;
-    private final Covering covering;
+    private final Searches searches;
     private final Likeness likeness = new Likeness();
     private int findings;
 
@@ -71,8 +70,7 @@ public final class TalkBench {
         scales = new Scales(task, marks, partings);
         talk = new Talk(marks, blocks);
         judge = new Judge(task, marks);
-        fooling = new Fooling(task, marks);
-        covering = new Covering(task, marks, fooling);
+        searches = new Searches(task, marks);
         marks.read(task);
     }
 
@@ -286,14 +284,14 @@ public final class TalkBench {
         if (isNoAnswer(v)) {
             return finding(BEYOND);
         }
-        return Integer.bitCount(fooling.greatest(v));
+        return Integer.bitCount(searches.greatestFooling(v));
     }
 
     public int cover(int v) {
         if (isNoAnswer(v)) {
             return finding(BEYOND);
         }
-        return covering.fewestToCover(v);
+        return searches.fewestToCover(v);
     }
 
     public int part() {
@@ -1175,30 +1173,33 @@ public final class TalkBench {
         }
     }
 
-    /** The search for the most fooling places: at most one in each row, for those of a row lie together. */
-    private static final class Fooling {
+    /** The searches for fooling places and for covers; many places at once are told by bits. */
+    private static final class Searches {
         private final Task task;
         private final Marks marks;
         private final int[] apart = new int[PLACES];
-        private int best;
+        private final int[] greatBlocks = new int[SETS];
+        private int greatBlockCount;
+        private int bestFooling;
+        private int foolingPlaces;
+        private int bestCover;
 
-        Fooling(Task task, Marks marks) {
+        Searches(Task task, Marks marks) {
             this.task = task;
             this.marks = marks;
         }
 
-        /** The places of a greatest set, as bits. */
-        int greatest(int v) {
+        int greatestFooling(int v) {
             int places = placesThatAre(v);
             for (int place = 0; place < PLACES; place++) {
                 apart[place] = (places >> place & 1) == 1 ? placesApart(place, places) : 0;
             }
-            best = 0;
+            bestFooling = 0;
             choose(0, places, 0);
-            return best;
+            return bestFooling;
         }
 
-        int placesThatAre(int v) {
+        private int placesThatAre(int v) {
             int places = 0;
             for (int row = 0; row < task.rowCount; row++) {
                 places |= marks.columnsWith(v, 1 << row) << SIDE * row;
@@ -1207,20 +1208,21 @@ public final class TalkBench {
         }
 
         private int placesApart(int place, int places) {
-            int found = 0;
+            int separate = 0;
             for (int other = 0; other < PLACES; other++) {
                 if ((places >> other & 1) == 1 && !marks.areInOneEvenBlock(place, other)) {
-                    found |= 1 << other;
+                    separate |= 1 << other;
                 }
             }
-            return found;
+            return separate;
         }
 
+        // Row by row: those of one row lie together, so that each row has one at most.
         private void choose(int row, int allowed, int chosen) {
             int chosenCount = Integer.bitCount(chosen);
-            int bestCount = Integer.bitCount(best);
+            int bestCount = Integer.bitCount(bestFooling);
             if (chosenCount > bestCount) {
-                best = chosen;
+                bestFooling = chosen;
                 bestCount = chosenCount;
             }
             if (row >= task.rowCount || chosenCount + task.rowCount - row <= bestCount) {
@@ -1234,34 +1236,14 @@ public final class TalkBench {
             }
             choose(row + 1, allowed, chosen);
         }
-    }
-
-    /**
-     * The search for the fewest blocks that cover: it takes the lowest place still wanted, and tries all blocks
-     * with it. No block has two fooling places: those still wanted tell when it can come to nothing better.
-     */
-    private static final class Covering {
-        private final Task task;
-        private final Marks marks;
-        private final Fooling fooling;
-        private final int[] found = new int[SETS];
-        private int foundCount;
-        private int foolingPlaces;
-        private int best;
-
-        Covering(Task task, Marks marks, Fooling fooling) {
-            this.task = task;
-            this.marks = marks;
-            this.fooling = fooling;
-        }
 
         int fewestToCover(int v) {
             listGreatestBlocks(v);
-            foolingPlaces = fooling.greatest(v);
+            foolingPlaces = greatestFooling(v);
             // Each row on its own takes a block at most.
-            best = countRowsWith(v);
-            coverRest(fooling.placesThatAre(v), 0);
-            return best;
+            bestCover = countRowsWith(v);
+            coverRest(placesThatAre(v), 0);
+            return bestCover;
         }
 
         private int countRowsWith(int v) {
@@ -1276,12 +1258,12 @@ public final class TalkBench {
 
         // Blocks may overlap here: only those to which no row or column can be added are worth a look.
         private void listGreatestBlocks(int v) {
-            foundCount = 0;
+            greatBlockCount = 0;
             for (int rows = 1; rows <= marks.allRows; rows++) {
                 int columns = marks.allColumns & ~marks.columnsWith(1 - v, rows);
                 if (columns != 0 && rows == rowsWithout(1 - v, columns)) {
-                    found[foundCount] = placesOf(rows, columns);
-                    foundCount++;
+                    greatBlocks[greatBlockCount] = placesOf(rows, columns);
+                    greatBlockCount++;
                 }
             }
         }
@@ -1296,18 +1278,19 @@ public final class TalkBench {
             return rows;
         }
 
+        // No block has two fooling places: those still wanted tell when it can come to nothing better.
         private void coverRest(int wanted, int used) {
             if (wanted == 0) {
-                best = Math.min(best, used);
+                bestCover = Math.min(bestCover, used);
                 return;
             }
-            if (used + Math.max(1, Integer.bitCount(wanted & foolingPlaces)) >= best) {
+            if (used + Math.max(1, Integer.bitCount(wanted & foolingPlaces)) >= bestCover) {
                 return;
             }
             int lowest = lowestOf(wanted);
-            for (int b = 0; b < foundCount; b++) {
-                if ((found[b] & lowest) != 0) {
-                    coverRest(wanted & ~found[b], used + 1);
+            for (int b = 0; b < greatBlockCount; b++) {
+                if ((greatBlocks[b] & lowest) != 0) {
+                    coverRest(wanted & ~greatBlocks[b], used + 1);
                 }
             }
         }

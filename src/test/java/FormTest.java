@@ -68,8 +68,8 @@ public final class FormTest {
 
     private static void membersInside() {
         List<Class<?>> classes = new ArrayList<>(List.of(TalkBench.class.getDeclaredClasses()));
-        must(classes.size() < 13, "too many classes: " + classes.size());
         classes.add(TalkBench.class);
+        must(classes.size() <= 12, "too many classes: " + classes.size());
         Set<String> names = new TreeSet<>();
         for (String sign : FACE) {
             names.add(sign.substring(0, sign.indexOf('(')));

@@ -9,7 +9,7 @@ import java.util.TreeMap;
 import java.util.regex.Matcher;
 import java.util.regex.Pattern;
 
-/** The sentences of ../shared/DOC.md, the terms as promise 0, and which of them some test has said. */
+/** The sentences of ../shared/DOC.md, the terms (and how long an object is good for) as promise 0, and which some test has said. */
 final class Document {
     static final int TERMS = 0;
     private final Map<Integer, String> texts = new TreeMap<>();
@@ -17,9 +17,9 @@ final class Document {
 
     Document() throws IOException {
         String all = Files.readString(Path.of("../shared/DOC.md")).replaceAll("\\s+", " ");
-        Matcher terms = Pattern.compile("## Terms (.*?) Ahead of the calls").matcher(all);
+        Matcher terms = Pattern.compile("(An object is used .*?) ## The public face .*? ## Terms (.*?) Ahead of the calls").matcher(all);
         if (terms.find()) {
-            texts.put(TERMS, terms.group(1));
+            texts.put(TERMS, terms.group(1) + " " + terms.group(2));
         }
         Matcher promises = Pattern.compile("## Promise (\\d+): .*? `[^`]*`: (.*?) (?=## )").matcher(all);
         while (promises.find()) {

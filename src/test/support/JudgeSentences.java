@@ -44,7 +44,10 @@ final class JudgeSentences {
             "fill(10000) tells(1,30,2,1,2,0) check()=1");
         tests.says(28, "The most bits that are said in it, when it is right.",
             "tells(2,0) check()=0", "fill(01/00) tells(0,2,1,2,2,0,2,1,2,0) check()=2",
-            "fill(00/01) tells(0,2,2,0,1,2,2,0,2,1) check()=2",
+            "fill(00/01) tells(0,2,2,0,1,2,2,0,2,1) check()=2", "fill(10/00) tells(1,2,0,2,2,1,2,0,2,0) check()=2",
+            "fill(01/00) tells(1,2,2,0,0,2,2,1,2,0) check()=2",
+            // Of this talk alone.
+            "fill(10/01) tells(" + RIGHT + ") check()=2 table(1,1) tells(2,0) check()=0",
             // An EVEN block may be parted on.
             "fill(00) tells(1,2,2,0,2,0) check()=1",
             "table(5,5) tells(" + longest(0) + ") told(4)=98 check()=8");

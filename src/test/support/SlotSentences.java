@@ -67,6 +67,7 @@ final class SlotSentences {
             "fill(0/0/0/0/1) keep(1) fill(1/0/0/0/0) same(1)=1 fill(0/0/1/0/1) same(1)=0",
             "fill(11000/01100/00110/00011/10001) keep(2) fill(10100/01010/00101/10010/01001) same(2)=1"
                 + " fill(11000/11000/00110/00011/00101) same(2)=0",
+            "fill(001) keep(0) fill(011) same(0)=0", "fill(0/0/1) keep(0) fill(0/1/1) same(0)=0",
             // By turning it another task comes of it.
             "fill(11/00) keep(0) turn() same(0)=0");
         tests.says(33, "(weights are not looked at; of other sizes: 0): 1, 0.",

@@ -60,7 +60,8 @@ final class TalkSentences {
     private void knot() {
         tests.says(17, "Of knot k of the talk that was made latest:",
             "fill(10/01) talk()=7 knot(6,0)=2 put(0,0,0) put(1,1,0) talk()=1 knot(0,0)=2 knot(1,0)=BEYOND",
-            "talk() put(0,0,1) talk() knot(0,3)=1");
+            "talk() put(0,0,1) talk() knot(0,3)=1",
+            "fill(01) talk() knot(0,0)=1 fill(0/1) talk() knot(0,0)=0 said(1,0)=3 fill(01) talk() knot(0,0)=1");
         // Rows {0} and {1}; in row 0 columns {0} and {1}: 0 and 1; row 1 is 0.
         String five = "fill(01/00) talk()=5 ";
         tests.says(17, "0 whose it is (0 A, 1 B, 2 an END),", five + "knot(0,0)=0 knot(1,0)=1 knot(2,0)=2 knot(3,0)=2 knot(4,0)=2",

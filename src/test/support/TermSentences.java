@@ -8,6 +8,7 @@ final class TermSentences {
     }
 
     void test() {
+        calls();
         findings();
         refusedActs();
         task();
@@ -15,6 +16,13 @@ final class TermSentences {
         bitsAndEnds();
         bestTalk();
         slotsAndSheets();
+    }
+
+    private void calls() {
+        tests.says(TERMS, "An object is used for at most 512 calls after it has been made; what later calls answer is free.",
+            // The last one of 512.
+            "400*turn()=1 80*told(9)=BEYOND 29*weigh(0,0,1)=1 talk()=1 told(6)=80 undo()=29",
+            "table(5,5) rule(0) 509*talk() bits(31,31)=4", "table(5,5) rule(3) 120*tell(2) 388*put(4,4,2) wrong(0)=6 check()=100");
     }
 
     private void findings() {
@@ -120,7 +128,9 @@ final class TermSentences {
             "fill(00) talk() knot(0,3)=0", "fill(11) talk() knot(0,3)=1");
         tests.says(TERMS, "Another one has a parting: of those with which LEAST BITS of its block are reached the first one:",
             "fill(1/0/0) talk()=3 knot(0,4)=2 knot(2,1)=6", "fill(0/1/0) talk()=3 knot(2,1)=2",
-            "fill(101/101) talk()=3 knot(0,0)=1 knot(2,2)=2");
+            "fill(101/101) talk()=3 knot(0,0)=1 knot(2,2)=2",
+            // With one part that is EVEN, and the other one as bad as the whole, they are not reached.
+            "fill(22/01) talk()=3 knot(0,0)=1", "fill(01/22) talk()=3 knot(0,0)=1");
         tests.says(TERMS, "of rows ahead of columns, then by the SECOND set as a number, the least first;",
             "fill(10/01) talk()=7 knot(0,0)=0 knot(1,0)=1 knot(4,0)=1", "fill(0/2/1) talk()=3 knot(1,1)=3 knot(2,1)=4",
             "fill(021) talk()=3 knot(0,0)=1 knot(1,2)=3 knot(2,2)=4", "fill(0/1/2) talk()=3 knot(1,1)=5 knot(2,1)=2",

@@ -56,7 +56,10 @@ final class BoundSentences {
             "fill(10/01) cover(1)=2 cover(0)=2", "fill(110/111/011) cover(1)=2 cover(0)=2",
             // An OPEN place need not be in a block, and may be in several.
             "fill(102/021) cover(1)=2", "fill(121/202) cover(0)=1 cover(1)=1", "fill(010/121/010) cover(1)=2",
-            "table(3,3) rule(0) cover(0)=3 cover(1)=3", "fill(10/10/10) cover(1)=1 cover(0)=1", "fill(01/01/01) cover(1)=1 cover(0)=1");
+            "table(3,3) rule(0) cover(0)=3 cover(1)=3", "fill(10/10/10) cover(1)=1 cover(0)=1", "fill(01/01/01) cover(1)=1 cover(0)=1",
+            // No block of a table before is one of this one.
+            "fill(1101/1110/1110) cover(1)=2 fill(10/11/11) cover(1)=2",
+            "fill(0021/0102/0000) cover(0)=2 fill(010/120/110) cover(0)=2");
         tests.says(23, "(0, if there are none).", "cover(1)=0 put(0,0,2) cover(0)=0 cover(1)=0 put(0,0,1) cover(0)=0 cover(1)=1",
             "fill(11/12) cover(0)=0", "fill(00/20) cover(1)=0", "table(5,5) cover(1)=0 turnAnswers() cover(0)=0");
         tests.asks(23, "(0, if there are none).", Sentences.BUSY, "cover(0)", "cover(1)");

@@ -1027,8 +1027,9 @@ public final class TalkBench {
         }
 
         private int grow(int rows, int columns, int depth) {
+            // There never are so many; but wordsFor() goes where this leads, and a knot is always there.
             if (count >= MOST_KNOTS) {
-                return NO_KNOT;
+                return MOST_KNOTS - 1;
             }
             int k = count;
             count++;

@@ -7,6 +7,7 @@ import java.nio.file.Files;
 import java.nio.file.Path;
 import java.util.ArrayList;
 import java.util.List;
+import java.util.Map;
 import java.util.Set;
 import java.util.TreeSet;
 import java.util.regex.Matcher;
@@ -14,13 +15,10 @@ import java.util.regex.Pattern;
 
 /** The rules of LANGUAGE.md, as far as a reader of the text and of the class can tell them. */
 public final class FormTest {
-    private static final List<String> FACE = List.of(
-        "as(int,int)", "bits(int,int)", "bring(int)", "check()", "classes(boolean)", "copy(int,int,int,int,int)",
-        "cover(int)", "ends(int,int)", "fool(int)", "fools(int)", "keep(int)", "knot(int,int)", "lay(int)",
-        "once(boolean)", "part()", "place(int,int)", "put(int,int,int)", "rank(boolean)", "rule(int)",
-        "said(int,int)", "same(int)", "sheet(int,int,int)", "swing()", "table(int,int)", "talk()", "tell(int)",
-        "told(int)", "turn()", "turnAnswers()", "undo()", "unlike(boolean)", "weigh(int,int,int)",
-        "write(int,int,int)", "wrong(int)");
+    private static final Pattern HEADING_OR_CALL = Pattern.compile("(?m)^    (?:// ---- (.*)|public int (\\w+\\(.*\\)) \\{)$");
+    private static Document document;
+    /** The calls of the document's face without their parameters' names. */
+    private static final Set<String> FACE = new TreeSet<>();
     private static int wrong = 0;
 
     private static void must(boolean holds, String what) {
@@ -31,9 +29,15 @@ public final class FormTest {
     }
 
     public static void main(String[] args) throws IOException {
+        document = new Document();
+        for (String call : document.face()) {
+            FACE.add(call.replaceAll(" \\w+(?=[,)])", "").replace(" ", ""));
+        }
+        String text = Files.readString(Path.of("src/main/java/TalkBench.java"));
         face();
+        headings(text);
         membersInside();
-        text(Files.readString(Path.of("src/main/java/TalkBench.java")));
+        text(text);
         System.out.println(wrong == 0 ? "the form is kept" : wrong + " faults of form");
         if (wrong != 0) {
             System.exit(1);
@@ -57,13 +61,41 @@ public final class FormTest {
                 must(m.getReturnType() == int.class, "answers no int: " + m);
             }
         }
-        must(visible.equals(new TreeSet<>(FACE)) && FACE.size() == 34, "the face is another one: " + visible);
+        must(visible.equals(FACE) && FACE.size() == 34, "the face is another one: " + visible);
         Constructor<?>[] made = TalkBench.class.getDeclaredConstructors();
         must(made.length == 1 && Modifier.isPublic(made[0].getModifiers()) && made[0].getParameterCount() == 0, "the constructor");
         must(Modifier.isFinal(TalkBench.class.getModifiers()), "the class is not final");
         for (Field f : TalkBench.class.getDeclaredFields()) {
             must(Modifier.isPrivate(f.getModifiers()), "a field is not private: " + f);
         }
+    }
+
+    /** The calls stand in the document's order, with its names of parameters, each behind its heading. */
+    private static void headings(String text) {
+        List<String> due = new ArrayList<>();
+        Map<String, List<String>> headings = document.headings();
+        for (String call : document.face()) {
+            String name = call.substring(0, call.indexOf('('));
+            headings.forEach((heading, calls) -> {
+                if (calls.get(0).equals(name)) {
+                    due.add(heading);
+                }
+            });
+            due.add(call);
+        }
+        List<String> found = new ArrayList<>();
+        Matcher m = HEADING_OR_CALL.matcher(text);
+        while (m.find()) {
+            found.add(m.group(1) == null ? m.group(2) : m.group(1));
+        }
+        must(found.equals(due) && due.size() == 34 + 6, "headings and calls stand otherwise: " + found);
+        List<String> behind = new ArrayList<>();
+        headings.values().forEach(behind::addAll);
+        must(behind.equals(document.face().stream().map(call -> call.substring(0, call.indexOf('('))).toList()),
+            "the document's headings have other calls behind them: " + behind);
+        String opening = text.replaceAll("\\s+(\\*(?!/))?\\s*", " ");
+        must(opening.contains("/** " + document.whatItIs() + " */ public final class TalkBench {"),
+            "the class does not say what it is: " + document.whatItIs());
     }
 
     private static void membersInside() {
